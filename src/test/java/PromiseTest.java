@@ -579,6 +579,8 @@ public final class PromiseTest {
         due("no boat", x.count(3), 0);
         due("crane is undone", x.undo(), 1);
         due("crane", x.count(12), 20);
+        due("lifts are undone", x.undo(), 0);
+        due("lifts", x.count(11), 4);
     }
 
     private static void plansFaults() {
@@ -586,14 +588,14 @@ public final class PromiseTest {
         WinterYard x = new WinterYard();
         Object[][] faults = {
             {"", 0}, {"u", 1}, {"x", 0}, {" ", 0}, {";", 0}, {"5", 0}, {"U0:0", 0},
-            {"u20:0", 2}, {"u5", 2}, {"u5:", 3}, {"u5:4", 3}, {"u05:0", 2}, {"u19", 3}, {"u190:0", 3},
-            {"u1", 2}, {"u10", 3}, {"u:0", 1}, {"u0;0", 2}, {"u0:00", 4}, {"u0:10", 4}, {"u0:-1", 3},
+            {"u20:0", 2}, {"u5", 2}, {"u5:", 3}, {"u5:4", 3}, {"u05:0", 2}, {"u21:0", 2}, {"u19", 3}, {"u190:0", 3},
+            {"u1", 2}, {"u10", 3}, {"u:0", 1}, {"u0;0", 2}, {"u0:00", 4}, {"u0:10", 4}, {"u0:11", 4}, {"u0:-1", 3},
             {"m", 1}, {"m30:0", 2}, {"m3:9", 3}, {"m19:3;", 6}, {"m19:3;;", 6}, {"m19:3x", 5},
-            {"d", 1}, {"d5;", 3}, {"d00", 2}, {"d20", 2}, {"d5:0", 2}, {"d1;d", 4}, {"d19 ", 3},
+            {"d", 1}, {"d5;", 3}, {"d00", 2}, {"d20", 2}, {"d29", 2}, {"d5:0", 2}, {"d1;d", 4}, {"d19 ", 3},
             {"-", 1}, {"-5 ", 2}, {"--", 1}, {"-+", 1}, {"-99", 2},
             {"+", 1}, {"+x", 1}, {"+01", 2}, {"+19;+20", 6},
             {".", 1}, {".0", 1}, {".100", 3}, {".01", 1}, {".9;", 3}, {".99;.", 5}, {".1:0", 2}, {".999", 3},
-            {"d0\u0661", 2}, {"d\u0661", 1},
+            {"d0\u0661", 2}, {"d\u0661", 1}, {"d", 1}, {"", 0},
         };
         for (Object[] f : faults) {
             due("\"" + f[0] + "\"", performed(x, (String) f[0]), -100 - (Integer) f[1]);
@@ -1012,6 +1014,8 @@ public final class PromiseTest {
         x.move(1, 1);
         x.move(1, 0);
         due("lifts are left tomorrow", x.launchDay(1), 5);
+        x.set(1, 3);
+        due("one is left today", x.launchDay(1), 4);
         x.set(2, 4);
         due("too heavy", x.launchDay(0), NONE);
         x.set(2, 5);
@@ -1065,7 +1069,7 @@ public final class PromiseTest {
         x.launch(1);
         x.work(0, 5);
         x.work(3, 6);
-        x.work(4, 7);
+        x.work(4, 1);
         write(x, "hello");
         counts("told", x, 14, 44, 4, 5, 1, 3, 4, 1, 2, 2, 2, 8, 25, 4, 5);
         due("15", x.count(15), BAD_VALUE);
