@@ -325,7 +325,7 @@ public final class WinterYard {
         private static final int[] LEAST_SETTING = {0, 1, 1};
         private static final int[] GREATEST_SETTING = {9, 9, 30};
 
-        // A boat that is not there has the length 0.
+        // A boat that is not there has NONE for every fact.
         private final int[] facts = new int[MOST_BOATS * FACTS];
         private final int[] cradles = {4, 4, 4};
         private final int[] metres = {40, 40, 40, 40};
@@ -334,6 +334,12 @@ public final class WinterYard {
         private int liftsToday = 0;
         private int lifts = 0;
         private int launches = 0;
+
+        Yard() {
+            for (int boat = 0; boat < MOST_BOATS; boat++) {
+                forget(boat);
+            }
+        }
 
         void copyFrom(Yard other) {
             System.arraycopy(other.facts, 0, facts, 0, MOST_BOATS * FACTS);
@@ -361,7 +367,7 @@ public final class WinterYard {
         }
 
         boolean knows(int boat) {
-            return within(boat, 0, MOST_BOATS - 1) && fact(boat, LENGTH) > 0;
+            return within(boat, 0, MOST_BOATS - 1) && fact(boat, LENGTH) != NONE;
         }
 
         // ---- boats
@@ -372,6 +378,22 @@ public final class WinterYard {
 
         private void note(int boat, int what, int value) {
             facts[boat * FACTS + what] = value;
+        }
+
+        private void forget(int boat) {
+            for (int what = 0; what < FACTS; what++) {
+                note(boat, what, NONE);
+            }
+        }
+
+        private int boatsWith(int what, int value) {
+            int many = 0;
+            for (int at = what; at < facts.length; at += FACTS) {
+                if (facts[at] == value) {
+                    many++;
+                }
+            }
+            return many;
         }
 
         int addBoat(int length, int draft, int weight, int keel) {
@@ -419,18 +441,12 @@ public final class WinterYard {
             if (isAshore(boat) || !hasMast(boat)) {
                 return NOT_POSSIBLE;
             }
-            note(boat, LENGTH, 0);
+            forget(boat);
             return boats();
         }
 
         int boats() {
-            int many = 0;
-            for (int boat = 0; boat < MOST_BOATS; boat++) {
-                if (knows(boat)) {
-                    many++;
-                }
-            }
-            return many;
+            return MOST_BOATS - boatsWith(LENGTH, NONE);
         }
 
         boolean isAshore(int boat) {
@@ -438,11 +454,7 @@ public final class WinterYard {
         }
 
         int boatsAshore() {
-            int many = 0;
-            for (int row = 0; row < ROWS; row++) {
-                many += boatsIn(row);
-            }
-            return many;
+            return MOST_BOATS - boatsWith(ROW, NONE);
         }
 
         // ---- cradles
@@ -452,13 +464,7 @@ public final class WinterYard {
         }
 
         int cradlesTaken(int kind) {
-            int many = 0;
-            for (int boat = 0; boat < MOST_BOATS; boat++) {
-                if (knows(boat) && fact(boat, CRADLE) == kind) {
-                    many++;
-                }
-            }
-            return many;
+            return boatsWith(CRADLE, kind);
         }
 
         static int bears(int kind) {
@@ -484,7 +490,7 @@ public final class WinterYard {
         }
 
         private boolean hasFreeCradle(int kind) {
-            return cradlesTaken(kind) < cradlesOf(kind);
+            return boatsWith(CRADLE, kind) < cradles[kind];
         }
 
         /** The kind of the cradle into which a boat is put, or NONE. */
@@ -515,18 +521,14 @@ public final class WinterYard {
         }
 
         private boolean standsIn(int boat, int row) {
-            return knows(boat) && fact(boat, ROW) == row;
-        }
-
-        private int metresFor(int boat) {
-            return fact(boat, LENGTH) + 1;
+            return fact(boat, ROW) == row;
         }
 
         int metresTaken(int row) {
             int taken = 0;
-            for (int boat = 0; boat < MOST_BOATS; boat++) {
-                if (standsIn(boat, row)) {
-                    taken += metresFor(boat);
+            for (int at = 0; at + FACTS <= facts.length; at += FACTS) {
+                if (facts[at + ROW] == row) {
+                    taken += facts[at + LENGTH] + 1;
                 }
             }
             return taken;
@@ -537,17 +539,11 @@ public final class WinterYard {
         }
 
         private boolean hasRoom(int row, int boat) {
-            return metresFor(boat) <= metresLeft(row);
+            return fact(boat, LENGTH) + 1 <= metresLeft(row);
         }
 
         int boatsIn(int row) {
-            int many = 0;
-            for (int boat = 0; boat < MOST_BOATS; boat++) {
-                if (standsIn(boat, row)) {
-                    many++;
-                }
-            }
-            return many;
+            return boatsWith(ROW, row);
         }
 
         /** The boat at a place of a row, or NONE; the innermost place is 0. */
@@ -753,13 +749,7 @@ public final class WinterYard {
         }
 
         int mastsIn(int rack) {
-            int many = 0;
-            for (int boat = 0; boat < MOST_BOATS; boat++) {
-                if (knows(boat) && fact(boat, RACK) == rack) {
-                    many++;
-                }
-            }
-            return many;
+            return boatsWith(RACK, rack);
         }
 
         private int rackFor(int boat) {
@@ -821,7 +811,7 @@ public final class WinterYard {
         int boatsWithWork() {
             int many = 0;
             for (int boat = 0; boat < MOST_BOATS; boat++) {
-                if (knows(boat) && fact(boat, WORK) > 0) {
+                if (fact(boat, WORK) > 0) {
                     many++;
                 }
             }
@@ -846,7 +836,7 @@ public final class WinterYard {
             day += days;
             liftsToday = 0;
             for (int boat = 0; boat < MOST_BOATS; boat++) {
-                if (knows(boat) && isAshore(boat)) {
+                if (isAshore(boat)) {
                     note(boat, DAYS_ASHORE, fact(boat, DAYS_ASHORE) + days);
                     note(boat, WORK, Math.max(0, fact(boat, WORK) - days));
                 }

@@ -9,7 +9,9 @@ import java.util.ArrayList;
 import java.util.Collections;
 import java.util.HashSet;
 import java.util.List;
+import java.util.Map;
 import java.util.Set;
+import java.util.TreeMap;
 import java.util.regex.Matcher;
 import java.util.regex.Pattern;
 
@@ -39,6 +41,7 @@ public final class RulesTest {
         face();
         classesInside();
         words();
+        depthOfCalls();
         check.end();
     }
 
@@ -119,6 +122,10 @@ public final class RulesTest {
             Matcher matcher = Pattern.compile(edge + Pattern.quote(word)).matcher(code);
             check.holds("no " + word, !matcher.find());
         }
+        check.holds("no method is longer than 60 lines", longestPiece(source) <= 60);
+    }
+
+    private static int longestPiece(String source) {
         int longest = 0;
         int length = 0;
         for (String line : source.split("\n")) {
@@ -130,6 +137,34 @@ public final class RulesTest {
                 length = 0;
             }
         }
-        check.holds("no method is longer than 60 lines: " + longest, longest <= 60);
+        return longest;
+    }
+
+    /** How deep calls go, from the text: a method's name stands for all that bear it. */
+    private static void depthOfCalls() throws IOException {
+        String source = Files.readString(Path.of("src/main/java/WinterYard.java"));
+        Pattern method = Pattern.compile(
+            "(?ms)^( {4}| {8})(?:(?:public|private|static|final) )*\\w+ (\\w+)\\([^)]*\\) \\{\\n(.*?)^\\1\\}");
+        Map<String, String> bodies = new TreeMap<>();
+        Matcher matcher = method.matcher(source);
+        while (matcher.find()) {
+            bodies.merge(matcher.group(2), matcher.group(3), String::concat);
+        }
+        check.holds("more than 80 methods are found: " + bodies.size(), bodies.size() > 80);
+        for (String name : bodies.keySet()) {
+            int depth = depth(name, bodies, 1);
+            check.holds(name + " goes at most 8 deep: " + depth, depth <= 8);
+        }
+    }
+
+    private static int depth(String name, Map<String, String> bodies, int level) {
+        int deepest = level;
+        Matcher call = Pattern.compile("\\b(\\w+)\\(").matcher(bodies.get(name));
+        while (call.find() && level < 20) {
+            if (bodies.containsKey(call.group(1))) {
+                deepest = Math.max(deepest, depth(call.group(1), bodies, level + 1));
+            }
+        }
+        return deepest;
     }
 }
