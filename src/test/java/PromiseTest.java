@@ -781,6 +781,12 @@ public final class PromiseTest {
         x.launch(0);
         due("farthest out", x.row(1, 3), 2);
         due("taken", x.row(1, 1), 9);
+        comeMany(x, 17, 6, 3, 1);
+        x.lift(19, 3);
+        int[] last = {40, 7, 1, 19};
+        for (int what = 0; what < last.length; what++) {
+            due("the last boat, what " + what, x.row(3, what), last[what]);
+        }
     }
 
     private static void stands() {
