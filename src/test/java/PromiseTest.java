@@ -1,15 +1,5 @@
 /** For each promise: ordinary inputs, the edges that the document names, and wrong inputs. */
-public final class PromiseTest {
-    private static final int UNKNOWN = -1;
-    private static final int BAD_VALUE = -2;
-    private static final int FULL = -3;
-    private static final int NOT_POSSIBLE = -4;
-    private static final int NONE = -5;
-    private static final int REFUSED = -10;
-
-    private static final int LOW = Integer.MIN_VALUE;
-    private static final int HIGH = Integer.MAX_VALUE;
-
+public final class PromiseTest extends Play {
     private static final Check check = new Check("PromiseTest");
     private static int promise = 0;
 
@@ -53,32 +43,6 @@ public final class PromiseTest {
 
     private static void due(String what, long got, long want) {
         check.due("promise " + promise + ": " + what, got, want);
-    }
-
-    /** A yard with many lifts and a strong crane, so that neither is in the way. */
-    private static WinterYard busyYard() {
-        WinterYard x = new WinterYard();
-        x.set(1, 9);
-        x.set(2, 30);
-        return x;
-    }
-
-    private static void comeMany(WinterYard x, int many, int length, int weight, int keel) {
-        for (int i = 0; i < many; i++) {
-            x.come(length, 5, weight, keel);
-        }
-    }
-
-    private static void write(WinterYard x, String text) {
-        x.clearText();
-        for (int i = 0; i < text.length(); i++) {
-            x.type(text.charAt(i));
-        }
-    }
-
-    private static int performed(WinterYard x, String text) {
-        write(x, text);
-        return x.perform();
     }
 
     private static void counts(String when, WinterYard x, int... wants) {
