@@ -310,6 +310,7 @@ public final class WinterYard {
         private static final int MOST_BOATS = 20;
         private static final int ROWS = 4;
         private static final int KINDS = 3;
+        private static final int SETTINGS = 3;
         private static final int LONG_KEEL = 0;
         private static final int BILGE_KEELS = 2;
         private static final int MOST_CRADLES = 9;
@@ -345,7 +346,7 @@ public final class WinterYard {
             System.arraycopy(other.facts, 0, facts, 0, MOST_BOATS * FACTS);
             System.arraycopy(other.cradles, 0, cradles, 0, KINDS);
             System.arraycopy(other.metres, 0, metres, 0, ROWS);
-            System.arraycopy(other.settings, 0, settings, 0, settings.length);
+            System.arraycopy(other.settings, 0, settings, 0, SETTINGS);
             day = other.day;
             liftsToday = other.liftsToday;
             lifts = other.lifts;
@@ -355,29 +356,39 @@ public final class WinterYard {
         // ---- what is known
 
         static boolean isFact(int what) {
-            return within(what, 0, FACTS - 1);
+            return what >= 0 && what < FACTS;
         }
 
         static boolean isRow(int row) {
-            return within(row, 0, ROWS - 1);
+            return row >= 0 && row < ROWS;
         }
 
         static boolean isKind(int kind) {
-            return within(kind, 0, KINDS - 1);
+            return kind >= 0 && kind < KINDS;
+        }
+
+        private static boolean isSetting(int which) {
+            return which >= 0 && which < SETTINGS;
         }
 
         boolean knows(int boat) {
-            return within(boat, 0, MOST_BOATS - 1) && fact(boat, LENGTH) != NONE;
+            return fact(boat, LENGTH) != NONE;
         }
 
         // ---- boats
 
+        private static boolean hasPlaceFor(int boat, int what) {
+            return boat >= 0 && boat < MOST_BOATS && isFact(what);
+        }
+
         int fact(int boat, int what) {
-            return facts[boat * FACTS + what];
+            return hasPlaceFor(boat, what) ? facts[boat * FACTS + what] : NONE;
         }
 
         private void note(int boat, int what, int value) {
-            facts[boat * FACTS + what] = value;
+            if (hasPlaceFor(boat, what)) {
+                facts[boat * FACTS + what] = value;
+            }
         }
 
         private void forget(int boat) {
@@ -388,8 +399,8 @@ public final class WinterYard {
 
         private int boatsWith(int what, int value) {
             int many = 0;
-            for (int at = what; at < facts.length; at += FACTS) {
-                if (facts[at] == value) {
+            for (int at = 0; at + FACTS <= facts.length; at += FACTS) {
+                if (isFact(what) && facts[at + what] == value) {
                     many++;
                 }
             }
@@ -460,7 +471,7 @@ public final class WinterYard {
         // ---- cradles
 
         int cradlesOf(int kind) {
-            return cradles[kind];
+            return isKind(kind) ? cradles[kind] : NONE;
         }
 
         int cradlesTaken(int kind) {
@@ -468,7 +479,7 @@ public final class WinterYard {
         }
 
         static int bears(int kind) {
-            return BEARS[kind];
+            return isKind(kind) ? BEARS[kind] : NONE;
         }
 
         int changeCradles(int kind, int many) {
@@ -490,7 +501,7 @@ public final class WinterYard {
         }
 
         private boolean hasFreeCradle(int kind) {
-            return boatsWith(CRADLE, kind) < cradles[kind];
+            return boatsWith(CRADLE, kind) < cradlesOf(kind);
         }
 
         /** The kind of the cradle into which a boat is put, or NONE. */
@@ -517,7 +528,7 @@ public final class WinterYard {
         // ---- rows
 
         int metresOf(int row) {
-            return metres[row];
+            return isRow(row) ? metres[row] : NONE;
         }
 
         private boolean standsIn(int boat, int row) {
@@ -598,11 +609,11 @@ public final class WinterYard {
         // ---- the crane
 
         int setting(int which) {
-            return settings[which];
+            return isSetting(which) ? settings[which] : NONE;
         }
 
         int changeSetting(int which, int value) {
-            if (!within(which, 0, settings.length - 1)) {
+            if (!isSetting(which)) {
                 return UNKNOWN;
             }
             if (!within(value, LEAST_SETTING[which], GREATEST_SETTING[which])) {
@@ -948,24 +959,27 @@ public final class WinterYard {
             return things;
         }
 
+        private boolean has(int number) {
+            return number >= 0 && number < things;
+        }
+
         char sign(int number) {
-            return signs[number];
+            return has(number) ? signs[number] : ' ';
         }
 
         int first(int number) {
-            return firsts[number];
+            return has(number) ? firsts[number] : NONE;
         }
 
         int second(int number) {
-            return seconds[number];
+            return has(number) ? seconds[number] : NONE;
         }
 
         /** Reads the text, and answers the index of its fault, or NONE. */
         int read() {
             at = 0;
             things = 0;
-            while (things < MOST_THINGS && readThing()) {
-                things++;
+            for (int thing = 0; thing < MOST_THINGS && readThing(); thing++) {
                 if (at == length) {
                     return NONE;
                 }
@@ -1010,10 +1024,18 @@ public final class WinterYard {
                 default:
                     return false;
             }
+            return first != NONE && add(sign, first, second);
+        }
+
+        private boolean add(char sign, int first, int second) {
+            if (things >= MOST_THINGS) {
+                return false;
+            }
             signs[things] = sign;
             firsts[things] = first;
             seconds[things] = second;
-            return first != NONE;
+            things++;
+            return true;
         }
 
         private boolean readCharacter(char wanted) {

@@ -90,7 +90,8 @@ public final class EmptyTest extends Play {
         check.due("a boat afloat stands in none", x.row(0, 2), 0);
         check.due("and nobody is there", x.stands(0, 0), NONE);
         x.lift(0, 0);
-        check.due("the innermost is the outermost", x.stands(0, 0), x.row(0, 3));
+        check.due("the innermost", x.stands(0, 0), 0);
+        check.due("is the outermost", x.row(0, 3), 0);
         check.due("the other rows are empty", x.row(1, 2) + x.row(2, 2) + x.row(3, 2), 0);
         check.due("setRow of an empty row", x.setRow(1, 10), 40);
     }
@@ -107,6 +108,10 @@ public final class EmptyTest extends Play {
         check.due("boats", x.row(1, 2), 0);
         check.due("farthest out", x.row(1, 3), NONE);
         check.due("innermost", x.stands(1, 0), NONE);
+        int[] facts = {5, 5, 5, LONG, NONE, NONE, NONE, NONE, 0, 0, 1};
+        for (int what = 0; what < facts.length; what++) {
+            check.due("a boat that is afloat again, fact " + what, x.boat(0, what), facts[what]);
+        }
     }
 
     /** "Empty at first"; "the length of the text if it ends too early (the empty text does)". */

@@ -4,6 +4,7 @@ public final class FullTest extends Play {
 
     public static void main(String[] args) {
         twentyBoats();
+        theFirstAndTheLastBoat();
         cradlesOfItsKind();
         cradlesOfTheOtherKind();
         cradlesOfFins();
@@ -35,6 +36,31 @@ public final class FullTest extends Play {
         check.due("one comes", x.come(3, 5, 1, LONG), 19);
         check.due("no more", x.come(3, 5, 1, LONG), FULL);
         check.due("boats", x.count(3), 20);
+    }
+
+    /** The boats 0 and 19 count as all the others do. */
+    private static void theFirstAndTheLastBoat() {
+        WinterYard x = busyYard();
+        comeMany(x, 20, 12, 5, LONG);
+        for (int boat : new int[] {0, 19}) {
+            check.due("its mast is taken off", x.mast(boat, false), 0);
+            x.work(boat, 2);
+            check.due("it is lifted", x.lift(boat, 3), boat == 0 ? 1 : 2);
+        }
+        int[] row = {40, 26, 2, 19};
+        for (int what = 0; what < 4; what++) {
+            check.due("the row, " + what, x.row(3, what), row[what]);
+        }
+        check.due("innermost", x.stands(3, 0), 0);
+        check.due("outermost", x.stands(3, 1), 19);
+        int[] counts = {0, 51, 7, 20, 2, 2, 2, 0, 2, 0};
+        for (int what = 0; what < counts.length; what++) {
+            check.due("count(" + what + ")", x.count(what), counts[what]);
+        }
+        x.pass(3);
+        check.due("days ashore", x.boat(0, 9), 3);
+        check.due("days ashore", x.boat(19, 9), 3);
+        check.due("no work is left", x.count(5), 0);
     }
 
     private static void fourOfAKind(WinterYard x, int kind) {
