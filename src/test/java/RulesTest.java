@@ -34,11 +34,13 @@ public final class RulesTest {
         "double", "->", "::", "Random", "currentTimeMillis", "nanoTime", "Thread", "equals(",
         "hashCode", "toString", "Exception", "Error", "Object", "protected", "volatile", "transient",
     };
+    private static final Set<String> LIBRARY = Set.of("System.arraycopy", "Math.max", "Math.abs");
 
     private static final Check check = new Check("RulesTest");
 
     public static void main(String[] args) throws IOException {
         face();
+        faceOfTheDocument();
         classesInside();
         words();
         depthOfCalls();
@@ -86,6 +88,25 @@ public final class RulesTest {
         check.holds("the constants are as listed, not " + got, got.equals(new HashSet<>(List.of(CONSTANTS))));
     }
 
+    /** Each line of the document's face stands in the program, in its order, with its names. */
+    private static void faceOfTheDocument() throws IOException {
+        String document = Files.readString(Path.of("../shared/DOC.md"));
+        String source = Files.readString(Path.of("src/main/java/WinterYard.java"));
+        int start = document.indexOf("public final class WinterYard {");
+        int end = document.indexOf("\n}\n", start);
+        check.holds("the document has a face", start >= 0 && end > start);
+        int at = 0;
+        int lines = 0;
+        for (String line : document.substring(Math.max(0, start), Math.max(0, end)).split("\n")) {
+            String due = line.contains("(") ? line.replace(";", " {") : line;
+            at = source.indexOf("\n" + due + "\n", Math.max(0, at - 1)) + 1;
+            check.holds("the program has the line \"" + due + "\"", at > 0);
+            at += due.length();
+            lines++;
+        }
+        check.due("lines of the face", lines, 1 + CONSTANTS.length + 1 + FACE.length);
+    }
+
     private static void classesInside() {
         Class<?>[] inside = WinterYard.class.getDeclaredClasses();
         check.holds("at most 12 classes", inside.length < 12);
@@ -121,6 +142,10 @@ public final class RulesTest {
             String edge = Character.isLetter(word.charAt(0)) ? "\\b" : "";
             Matcher matcher = Pattern.compile(edge + Pattern.quote(word)).matcher(code);
             check.holds("no " + word, !matcher.find());
+        }
+        Matcher library = Pattern.compile("\\b(?:System|Math|Integer|Long|Arrays|List|String)\\.\\w+").matcher(code);
+        while (library.find()) {
+            check.holds(library.group() + " is of the library", LIBRARY.contains(library.group()));
         }
         check.holds("no method is longer than 60 lines", longestPiece(source) <= 60);
     }
